@@ -38,7 +38,8 @@ public final class PlanRows {
      * way has fewer doors than there are rooms, so its stairs never add up to one metre.
      */
     private static final int COST_OF_METRE = 64;
-    private static final int NOT_REACHED = Integer.MAX_VALUE;
+    /** More than any way costs. */
+    private static final int NOT_REACHED = 1_000_000_000;
 
     private final Rooms rooms;
     private final Doors doors;
@@ -269,7 +270,9 @@ public final class PlanRows {
     }
 
     private static void wantNotBelowZero(int i) {
-        wantWithin(i, 0, Integer.MAX_VALUE);
+        if (i < 0) {
+            throw new IndexOutOfBoundsException("a place is below 0");
+        }
     }
 
     private static int wantAdded(int number) {

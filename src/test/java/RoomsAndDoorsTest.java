@@ -112,6 +112,8 @@ public final class RoomsAndDoorsTest {
         CHECKS.answers("3: still 80", 80, () -> x.count(1));
         CHECKS.answers("3: the last door counts, no other", 421, () -> x.way(0, 2, 0));
         CHECKS.answers("3: it is door 79", 79, () -> x.step(0));
+        CHECKS.answers("11: no key among 80 doors", -1, () -> x.missing(0));
+        CHECKS.answers("10: who is trapped behind 80 doors", 2, () -> x.trapped(0));
     }
 
     private static void keysAtHand() {
