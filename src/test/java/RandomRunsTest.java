@@ -1,5 +1,3 @@
-import java.lang.reflect.InvocationTargetException;
-import java.lang.reflect.Method;
 import java.util.ArrayList;
 import java.util.List;
 import java.util.Random;
@@ -51,7 +49,7 @@ public final class RandomRunsTest {
             new Kind("reaches", 20, 0, 12, -9, 9, -9, 9, -9, 9, 1, 20), new Kind("ladder", 20, 0, 12, -9, 9, -9, 9, -9, 9),
             new Kind("look", 3, 0, 30, 1, 9), new Kind("old", 6, 0, 40));
 
-    public static void main(String[] args) throws ReflectiveOperationException {
+    public static void main(String[] args) {
         for (int seed = 1; seed <= 400; seed++) {
             run(seed, WAYS, 7, 14);
         }
@@ -64,7 +62,7 @@ public final class RandomRunsTest {
         CHECKS.end("RandomRunsTest");
     }
 
-    private static void run(int seed, List<Kind> kinds, int mostRooms, int mostDoors) throws ReflectiveOperationException {
+    private static void run(int seed, List<Kind> kinds, int mostRooms, int mostDoors) {
         Random random = new Random(seed);
         PlanRows plan = new PlanRows();
         PlainPlan plain = new PlainPlan();
@@ -73,14 +71,12 @@ public final class RandomRunsTest {
             boolean isTooMuch = kind.name.equals("room") && plain.count(0) >= mostRooms
                     || kind.name.equals("door") && plain.count(1) >= mostDoors;
             if (!isTooMuch) {
-                Method method = methodOf(PlanRows.class, kind.name);
-                Object[] arguments = arguments(random, kind, method);
-                Object due = outcome(methodOf(PlainPlan.class, kind.name), plain, arguments);
-                Object got = outcome(method, plan, arguments);
+                PlanCall made = new PlanCall(kind.name, arguments(random, kind));
+                Object due = made.outcomeOn(plain);
                 if (due.equals("throws.UnsupportedOperationException")) {
                     HAD_NO_ROOM.add(kind.name);
                 }
-                CHECKS.same("seed " + seed + ", call " + call + ", " + kind.name + List.of(arguments), due, got);
+                CHECKS.same("seed " + seed + ", call " + call + ", " + made.text(), due, made.outcomeOn(plan));
             }
         }
     }
@@ -95,11 +91,10 @@ public final class RandomRunsTest {
         return weighed.get(random.nextInt(weighed.size()));
     }
 
-    private static Object[] arguments(Random random, Kind kind, Method method) {
-        Object[] all = new Object[kind.ranges.length / 2];
+    private static int[] arguments(Random random, Kind kind) {
+        int[] all = new int[kind.ranges.length / 2];
         for (int i = 0; i < all.length; i++) {
-            int number = number(random, kind.ranges[2 * i], kind.ranges[2 * i + 1]);
-            all[i] = method.getParameterTypes()[i] == boolean.class ? (Object) (number % 2 != 0) : (Object) number;
+            all[i] = number(random, kind.ranges[2 * i], kind.ranges[2 * i + 1]);
         }
         return all;
     }
@@ -119,23 +114,5 @@ public final class RandomRunsTest {
             return random.nextBoolean() ? least : most;
         }
         return least + random.nextInt(most - least + 1);
-    }
-
-    private static Method methodOf(Class<?> of, String name) {
-        for (Method method : of.getMethods()) {
-            if (method.getName().equals(name)) {
-                return method;
-            }
-        }
-        throw new IllegalStateException("no method " + name);
-    }
-
-    private static Object outcome(Method method, Object on, Object[] arguments) throws ReflectiveOperationException {
-        try {
-            Object answer = method.invoke(on, arguments);
-            return answer == null ? "done" : answer;
-        } catch (InvocationTargetException e) {
-            return "throws." + e.getCause().getClass().getSimpleName();
-        }
     }
 }
