@@ -8,8 +8,28 @@ final class Checks {
         void run();
     }
 
+    /** Far more than any test takes. */
+    private static final long MOST_MILLISECONDS = 600_000;
+
     private int made = 0;
     private int wrong = 0;
+
+    Checks() {
+        Thread watch = new Thread(Checks::failWhenItDoesNotEnd);
+        watch.setDaemon(true);
+        watch.start();
+    }
+
+    /** A call that does not end is wrong too. */
+    private static void failWhenItDoesNotEnd() {
+        try {
+            Thread.sleep(MOST_MILLISECONDS);
+            System.out.println("a call does not end");
+            Runtime.getRuntime().halt(1);
+        } catch (InterruptedException e) {
+            Thread.currentThread().interrupt();
+        }
+    }
 
     void same(String what, Object due, Object got) {
         made++;
