@@ -9,7 +9,7 @@ import java.util.stream.IntStream;
  * as "room 20 0 -> range". Behind the arrow stands what is due: a number, true, false, done (of a
  * call without an answer), or a refusal: unknown, range, state, noroom.
  *
- * <p>Behind every call that is refused, all is asked that a plan can be asked for: the answers are
+ * <p>Behind every call that is refused, some 2,600 questions of all kinds are asked: the answers are
  * those of a plan on which the refused call was never made.
  */
 final class Sentences {
@@ -150,7 +150,7 @@ final class Sentences {
         return answers;
     }
 
-    /** What a plan can be asked for; what changes it comes last. */
+    /** Questions of all kinds; what changes the plan comes last. */
     private static List<PlanCall> questions() {
         List<PlanCall> all = new ArrayList<>();
         ask(all, "count", 0, 4);
